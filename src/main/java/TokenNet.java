@@ -629,6 +629,7 @@ public final class TokenNet {
 
         Tape() {
             bytes = new int[TAPE_ROOM];
+            draft = new Rule();
         }
 
         boolean append(int letter) {

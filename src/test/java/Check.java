@@ -67,6 +67,17 @@ final class Check {
         return paper(net);
     }
 
+    /** A net with these as the rules of parts 0, 1 .. */
+    static TokenNet with(String... rules) {
+        TokenNet net = new TokenNet();
+        for (int part = 0; part < rules.length; part++) {
+            if (rule(net, part, rules[part]) < 1) {
+                throw new IllegalArgumentException("no rule: " + rules[part]);
+            }
+        }
+        return net;
+    }
+
     static void put(TokenNet net, int place, int... tokens) {
         for (int token : tokens) {
             net.put(place, token);

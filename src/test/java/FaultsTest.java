@@ -8,12 +8,11 @@ final class FaultsTest {
         int texts = args.length > 0 ? Integer.parseInt(args[0]) : 60000;
         Random random = new Random(20261120);
         Check check = new Check();
-        TokenNet net = new TokenNet();
         for (int i = 0; i < texts && check.wrong() < 5; i++) {
             check.about("text " + i);
             String text = new Texts(random, 10).rule();
             text = random.nextInt(2) == 0 ? text : spoiled(random, text);
-            compare(check, net, text.substring(0, Math.min(80, text.length())));
+            compare(check, text.substring(0, Math.min(80, text.length())));
         }
         check.end();
     }
@@ -41,9 +40,9 @@ final class FaultsTest {
         return spoiled.toString();
     }
 
-    private static void compare(Check check, TokenNet net, String text) {
+    private static void compare(Check check, String text) {
+        TokenNet net = new TokenNet();
         int fault = Model.fault(text);
-        net.drop(3);
         int answer = Check.rule(net, 3, text);
         if (fault >= 0) {
             check.due("rule of \"" + text + "\"", answer, -100 - fault);

@@ -17,19 +17,9 @@ final class GoingTest {
         check.end();
     }
 
-    private static TokenNet with(String... rules) {
-        TokenNet net = new TokenNet();
-        for (int part = 0; part < rules.length; part++) {
-            if (Check.rule(net, part, rules[part]) < 0) {
-                check.fail("no rule: " + rules[part]);
-            }
-        }
-        return net;
-    }
-
     private static void can() {
         check.about("promise 13, can");
-        TokenNet net = with("in 0 x;in 1 x");
+        TokenNet net = Check.with("in 0 x;in 1 x");
         check.due("can(-1)", net.can(-1), -1);
         check.due("can(10)", net.can(10), -1);
         check.due("can(1)", net.can(1), -3);
@@ -41,7 +31,7 @@ final class GoingTest {
         Check.put(net, 1, 2);
         check.due("can(0)", net.can(0), 1);
         check.due("nothing is changed", Check.line(net), "P0=1,2 P1=3,2");
-        TokenNet twice = with("in 0 x;in 0 y");
+        TokenNet twice = Check.with("in 0 x;in 0 y");
         Check.put(twice, 0, 5);
         check.due("one token for two takes", twice.can(0), 0);
         Check.put(twice, 0, 5);
@@ -50,7 +40,7 @@ final class GoingTest {
 
     private static void room() {
         check.about("promises 13 and 16, room");
-        TokenNet net = with("in 0 x;out 1 x;out 1 x", "in 1 x;out 1 x", "in 0 x;out 1 x;out 1 x;empty 1",
+        TokenNet net = Check.with("in 0 x;out 1 x;out 1 x", "in 1 x;out 1 x", "in 0 x;out 1 x;out 1 x;empty 1",
                 "in 1 x;in 1 y;out 1 x;out 1 y;out 1 1");
         Check.put(net, 0, 1);
         Check.put(net, 1, 1, 2, 3, 4);
@@ -72,13 +62,13 @@ final class GoingTest {
 
     private static void conditions() {
         check.about("promise 13, conditions");
-        TokenNet net = with("in 0 x;if x<5", "in 0 x;if x>5", "in 0 x;if x=5", "in 0 x;if x>3&x<7;if x*2=10&1=1",
+        TokenNet net = Check.with("in 0 x;if x<5", "in 0 x;if x>5", "in 0 x;if x=5", "in 0 x;if x>3&x<7;if x*2=10&1=1",
                 "in 0 x;if x>4&x>5", "in 0 x;if x>5&x>4", "if 1<0;in 0 x", "if 0<1;in 0 x",
                 "in 0 x;if x*x*x*x*x*x*x*x*x*x*x*x*x*x<0", "in 0 x;if 0-99*99*99*99*99>0");
         Check.put(net, 0, 5);
         check.due("all()", net.all(), 1 << 2 | 1 << 3 | 1 << 7 | (int5(14) < 0 ? 1 << 8 : 0)
                 | (-99 * 99 * 99 * 99 * 99 > 0 ? 1 << 9 : 0));
-        TokenNet equal = with("in 0 x;if x=4", "in 0 x;if x=6", "in 0 x;if x=5&x=6", "in 0 x;if x=6&x=5", "in 0 x;if x=x",
+        TokenNet equal = Check.with("in 0 x;if x=4", "in 0 x;if x=6", "in 0 x;if x=5&x=6", "in 0 x;if x=6&x=5", "in 0 x;if x=x",
                 "in 0 x;if x=5&x>4", "in 0 x;if x<6&x=5");
         Check.put(equal, 0, 5);
         check.due("all() of equalities", equal.all(), 1 << 4 | 1 << 5 | 1 << 6);
@@ -95,7 +85,7 @@ final class GoingTest {
 
     private static void bound() {
         check.about("promise 14, bound");
-        TokenNet net = with("in 0 x;in 1 y;in 0 z;if x<y;if y<z");
+        TokenNet net = Check.with("in 0 x;in 1 y;in 0 z;if x<y;if y<z");
         check.due("bound(-1, 0)", net.bound(-1, 0), -1);
         check.due("bound(10, 0)", net.bound(10, 0), -1);
         check.due("bound(1, 0)", net.bound(1, 0), -3);
@@ -110,7 +100,7 @@ final class GoingTest {
         check.due("bound(0, 1)", net.bound(0, 1), 2);
         check.due("bound(0, 2)", net.bound(0, 2), 0);
         check.due("bound(0, 3)", net.bound(0, 3), -1);
-        TokenNet same = with("in 0 x;in 0 x;in 0 y");
+        TokenNet same = Check.with("in 0 x;in 0 x;in 0 y");
         Check.put(same, 0, 7, 5, 7, 5);
         check.due("bound(0, 0)", same.bound(0, 0), 0);
         check.due("bound(0, 1)", same.bound(0, 1), 2);
@@ -123,7 +113,7 @@ final class GoingTest {
 
     private static void bindings() {
         check.about("promise 15, bindings");
-        TokenNet net = with("in 0 x;in 0 y;in 0 z", "in 0 x;in 0 x", "in 0 x", "in 0 x;in 1 x", "in 0 x;in 0 y;if x<y");
+        TokenNet net = Check.with("in 0 x;in 0 y;in 0 z", "in 0 x;in 0 x", "in 0 x", "in 0 x;in 1 x", "in 0 x;in 0 y;if x<y");
         check.due("bindings(-1)", net.bindings(-1), -1);
         check.due("bindings(10)", net.bindings(10), -1);
         check.due("bindings(9)", net.bindings(9), -3);
@@ -140,7 +130,7 @@ final class GoingTest {
 
     private static void go() {
         check.about("promise 16, go");
-        TokenNet net = with("in 0 x;in 0 y;if x<y;out 1 x+y;out 2 x*y;out 1 7");
+        TokenNet net = Check.with("in 0 x;in 0 y;if x<y;out 1 x+y;out 2 x*y;out 1 7");
         check.due("go(-1)", net.go(-1), -1);
         check.due("go(10)", net.go(10), -1);
         check.due("go(1)", net.go(1), -3);
@@ -159,14 +149,14 @@ final class GoingTest {
 
     private static void order() {
         check.about("promise 16, takes, then empties, then gives");
-        TokenNet net = with("in 0 x;out 0 x+1;empty 0;out 1 x;empty 1", "in 0 x;in 1 y;in 0 z;out 0 y;out 0 x");
+        TokenNet net = Check.with("in 0 x;out 0 x+1;empty 0;out 1 x;empty 1", "in 0 x;in 1 y;in 0 z;out 0 y;out 0 x");
         Check.put(net, 0, 1, 2, 3);
         Check.put(net, 1, 4);
         check.due("go(1)", net.go(1), 1);
         check.due("line", Check.line(net), "P0=3,4,1");
         check.due("go(0)", net.go(0), 2);
         check.due("line", Check.line(net), "P0=4 P1=3");
-        TokenNet own = with("in 0 x;out 0 x");
+        TokenNet own = Check.with("in 0 x;out 0 x");
         Check.put(own, 0, 1, 2, 3);
         own.go(0);
         check.due("the first goes last", Check.line(own), "P0=2,3,1");
@@ -191,7 +181,7 @@ final class GoingTest {
 
     /** What a part gives that has taken x 3, y 13, z 5 .. (x - y is -10, so 90). */
     private static void given(String expression, int want) {
-        TokenNet net = with("in 0 x;in 0 y;in 0 z;out 9 " + expression);
+        TokenNet net = Check.with("in 0 x;in 0 y;in 0 z;out 9 " + expression);
         Check.put(net, 0, 3, 13, 5);
         net.go(0);
         check.due(expression, net.token(9, 0), want);
@@ -199,7 +189,7 @@ final class GoingTest {
 
     private static void all() {
         check.about("promise 17, all");
-        TokenNet net = with("in 0 x", "in 1 x", "in 0 x;if x>5", "in 0 x;out 2 1");
+        TokenNet net = Check.with("in 0 x", "in 1 x", "in 0 x;if x>5", "in 0 x;out 2 1");
         check.due("all()", net.all(), 0);
         net.put(0, 5);
         check.due("all()", net.all(), 9);
@@ -212,7 +202,7 @@ final class GoingTest {
 
     private static void again() {
         check.about("promise 18, again");
-        TokenNet net = with("in 0 x;out 1 x", "in 1 x;out 0 x+1", "in 2 x;out 2 x+1");
+        TokenNet net = Check.with("in 0 x;out 1 x", "in 1 x;out 0 x+1", "in 2 x;out 2 x+1");
         check.due("again(-1, 1)", net.again(-1, 1), -2);
         check.due("again(1024, 1)", net.again(1024, 1), -2);
         check.due("again(1, 0)", net.again(1, 0), -2);
@@ -232,7 +222,7 @@ final class GoingTest {
 
     private static void last() {
         check.about("promise 19, last");
-        TokenNet net = with("in 0 x;out 1 x", "in 1 x;out 3 x", "in 2 x;out 2 x+1");
+        TokenNet net = Check.with("in 0 x;out 1 x", "in 1 x;out 3 x", "in 2 x;out 2 x+1");
         check.due("last(-1, 1, 0)", net.last(-1, 1, 0), -2);
         check.due("last(1024, 1, 10)", net.last(1024, 1, 10), -2);
         check.due("last(1, 0, 0)", net.last(1, 0, 0), -2);

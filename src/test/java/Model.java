@@ -489,9 +489,13 @@ final class Model {
 
     List<List<List<Integer>>> found;
     List<String> walks;
+    List<Object> searched;
 
     /** Just what is found by this n; each walk is a text of figures. */
     void search(int n) {
+        List<Object> by = List.of(n, copy(now), Arrays.asList(rules.clone()));
+        if (by.equals(searched)) return;
+        searched = by;
         found = new ArrayList<>(List.of(now));
         walks = new ArrayList<>(List.of(""));
         for (int from = 0; from < found.size(); from++) {
