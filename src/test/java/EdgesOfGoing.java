@@ -6,6 +6,7 @@ final class EdgesOfGoing {
     static void tell(Sentences sentences) {
         sentences.of("==== 1");
         sentences.holds("TAKES (1 .. 3)", EdgesOfGoing::takes);
+        sentences.holds("each a PLACE and a NAME (x, y or z)", EdgesOfGoing::names);
         sentences.holds("GIVES (0 .. 3)", EdgesOfGoing::gives);
         sentences.holds("EXPRESSIONS are worked out with ints (which go round, where they are too great)", EdgesOfGoing::ints);
         sentences.holds("a TOKEN given is that modulo 100, 0 or more.", EdgesOfGoing::modulo);
@@ -85,6 +86,23 @@ final class EdgesOfGoing {
         check.due("one goes", net.go(0), 1);
         check.due("three go", net.go(1), 2);
         check.due("line", Check.line(net), "P1=7 P2=5,8,6");
+    }
+
+    private static void names(Check check) {
+        check.due("one ahead of x", Check.rule(new TokenNet(), 0, "in 0 w"), -105);
+        check.due("one behind z", Check.rule(new TokenNet(), 0, "in 0 {"), -105);
+        for (char name = 'x'; name <= 'z'; name++) {
+            TokenNet net = Check.with("in 9 " + name + ";if " + name + "=42;out 0 " + name + "+1");
+            Check.put(net, 9, 7, 42);
+            check.due("go(0) by " + name, net.go(0), 1);
+            check.due("line by " + name, Check.line(net), "P0=43 P9=7");
+        }
+        TokenNet all = Check.with("in 0 z;in 1 x;in 2 y;out 3 x;out 4 y;out 5 z");
+        all.put(0, 10);
+        all.put(1, 20);
+        all.put(2, 30);
+        check.due("go(0) by all", all.go(0), 1);
+        check.due("line by all", Check.line(all), "P3=20 P4=30 P5=10");
     }
 
     private static void gives(Check check) {

@@ -23,6 +23,7 @@ final class EdgesOfSums {
         sentences.holds("How many INVARIANTS there are.", EdgesOfSums::howMany);
         sentences.of("## Promise 29:");
         sentences.holds("(0 the first by the PLACES that are BOUND)", EdgesOfSums::firstByPlaces);
+        sentences.holds("part 0 above, 1 below the line", EdgesOfSums::aboveAndBelow);
         sentences.holds("(in lowest terms, below 1 or more)", EdgesOfSums::lowestTerms);
         sentences.holds("NO: no such one, place, part.", EdgesOfSums::weightNone);
         sentences.of("## Promise 30:");
@@ -234,6 +235,16 @@ final class EdgesOfSums {
         }
         check.due("weight(4, 2, 0)", net.weight(4, 2, 0), 1);
         check.due("weight(6, 7, 0)", net.weight(6, 7, 0), 1);
+    }
+
+    private static void aboveAndBelow(Check check) {
+        TokenNet net = Check.with("in 0 x;in 0 y;in 0 z;out 1 x;out 1 y");
+        check.due("2 of 2/3", net.weight(0, 0, 0), 2);
+        check.due("3 of 2/3", net.weight(0, 0, 1), 3);
+        check.due("above the line of 1", net.weight(0, 1, 0), 1);
+        check.due("below the line of 1", net.weight(0, 1, 1), 1);
+        check.due("above the line of nothing", net.weight(0, 9, 0), 0);
+        check.due("below the line of nothing", net.weight(0, 9, 1), 1);
     }
 
     private static void lowestTerms(Check check) {
