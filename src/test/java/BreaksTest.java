@@ -1,27 +1,12 @@
-import java.io.ByteArrayOutputStream;
 import java.io.IOException;
-import java.io.InputStream;
 import java.io.OutputStream;
 import java.io.PrintStream;
-import java.io.Writer;
-import java.lang.reflect.Method;
-import java.net.URI;
 import java.nio.file.Files;
 import java.nio.file.Path;
 import java.util.ArrayList;
-import java.util.HashMap;
 import java.util.List;
-import java.util.Map;
 import java.util.Set;
 import java.util.TreeSet;
-import javax.tools.FileObject;
-import javax.tools.ForwardingJavaFileManager;
-import javax.tools.JavaCompiler;
-import javax.tools.JavaFileManager;
-import javax.tools.JavaFileObject;
-import javax.tools.SimpleJavaFileObject;
-import javax.tools.StandardJavaFileManager;
-import javax.tools.ToolProvider;
 
 /**
  * Breaks the class as src/test/breaks.txt says, sentence by sentence: the test of the sentence must fail then.
@@ -35,9 +20,6 @@ final class BreaksTest {
     record Break(String sentence, String behind, String old, String other) { }
 
     private final Check check = new Check();
-    private final JavaCompiler compiler = ToolProvider.getSystemJavaCompiler();
-    private final ThreadLocal<StandardJavaFileManager> files =
-            ThreadLocal.withInitial(() -> compiler.getStandardFileManager(null, null, null));
     private final String source;
 
     private BreaksTest(String source) {
@@ -145,66 +127,10 @@ final class BreaksTest {
     private String complaint(Break one) {
         int at = place(one);
         String broken = source.substring(0, at) + one.other() + source.substring(at + one.old().length());
-        Map<String, ByteArrayOutputStream> classes = compiled(broken);
-        if (classes.isEmpty()) {
+        Compiled classes = new Compiled(broken);
+        if (!classes.isRight()) {
             return "does not compile: " + one;
         }
-        return wrongIn(classes, one.sentence()) == 0 ? "is not noticed: " + one : "";
-    }
-
-    /** The classes of a source by their names; none if it does not compile. */
-    private Map<String, ByteArrayOutputStream> compiled(String text) {
-        Map<String, ByteArrayOutputStream> classes = new HashMap<>();
-        JavaFileObject file = new SimpleJavaFileObject(URI.create("string:///TokenNet.java"), JavaFileObject.Kind.SOURCE) {
-            @Override
-            public CharSequence getCharContent(boolean ignoreErrors) {
-                return text;
-            }
-        };
-        JavaFileManager memory = new ForwardingJavaFileManager<>(files.get()) {
-            @Override
-            public JavaFileObject getJavaFileForOutput(Location place, String name, JavaFileObject.Kind kind, FileObject near) {
-                return new SimpleJavaFileObject(URI.create("memory:///" + name), kind) {
-                    @Override
-                    public OutputStream openOutputStream() {
-                        ByteArrayOutputStream bytes = new ByteArrayOutputStream();
-                        classes.put(name, bytes);
-                        return bytes;
-                    }
-                };
-            }
-        };
-        boolean isRight = compiler.getTask(Writer.nullWriter(), memory, null,
-                List.of("-proc:none", "-nowarn", "-classpath", ""), null, List.of(file)).call();
-        return isRight ? classes : Map.of();
-    }
-
-    /** How many answers of these classes are not as due by the test of a sentence. */
-    private static int wrongIn(Map<String, ByteArrayOutputStream> classes, String sentence) {
-        ClassLoader loader = new ClassLoader(ClassLoader.getPlatformClassLoader()) {
-            @Override
-            protected Class<?> findClass(String name) throws ClassNotFoundException {
-                byte[] bytes = classes.containsKey(name) ? classes.get(name).toByteArray() : testClass(name);
-                return defineClass(name, bytes, 0, bytes.length);
-            }
-        };
-        try {
-            Method wrong = loader.loadClass("Sentences").getDeclaredMethod("wrong", String.class);
-            wrong.setAccessible(true);
-            return (int) wrong.invoke(null, sentence);
-        } catch (ReflectiveOperationException failed) {
-            throw new IllegalStateException(sentence, failed);
-        }
-    }
-
-    private static byte[] testClass(String name) throws ClassNotFoundException {
-        try (InputStream in = ClassLoader.getSystemResourceAsStream(name + ".class")) {
-            if (in == null) {
-                throw new ClassNotFoundException(name);
-            }
-            return in.readAllBytes();
-        } catch (IOException failed) {
-            throw new ClassNotFoundException(name, failed);
-        }
+        return classes.answer("Sentences", "wrong", one.sentence()) == 0 ? "is not noticed: " + one : "";
     }
 }
